@@ -109,10 +109,10 @@ public final class SealStrait {
         if (!within(what, 0, 1)) {
             return OUTSIDE;
         }
-        if (pad.faultPlace() != NONE) {
+        trial.run(pad, sea, treaty);
+        if (trial.isFaulty) {
             return NO;
         }
-        trial.run(pad, sea, treaty);
         if (trial.why == Sea.CAN_BE) {
             return NONE;
         }
@@ -120,7 +120,8 @@ public final class SealStrait {
     }
 
     public int done() {
-        if (!seasonsCanBe()) {
+        trial.run(pad, sea, treaty);
+        if (!trial.allCanBe()) {
             return NO;
         }
         sea.copyFrom(trial.sea);
@@ -135,7 +136,8 @@ public final class SealStrait {
         if (!within(what, 0, 2)) {
             return OUTSIDE;
         }
-        if (!seasonsCanBe()) {
+        trial.run(pad, sea, treaty);
+        if (!trial.allCanBe()) {
             return NO;
         }
         return trial.sea.isThere(herd) ? trial.sea.traitOf(herd, what) : NONE;
@@ -145,7 +147,8 @@ public final class SealStrait {
         if (!within(what, 0, 4)) {
             return OUTSIDE;
         }
-        if (!seasonsCanBe()) {
+        trial.run(pad, sea, treaty);
+        if (!trial.allCanBe()) {
             return NO;
         }
         switch (what) {
@@ -167,15 +170,6 @@ public final class SealStrait {
             return UNKNOWN;
         }
         return sea.signers(treaty.words[clause]);
-    }
-
-    /** Leaves what is behind SEASONS in the trial, if they can be. */
-    private boolean seasonsCanBe() {
-        if (pad.faultPlace() != NONE) {
-            return false;
-        }
-        trial.run(pad, sea, treaty);
-        return trial.why == Sea.CAN_BE;
     }
 
     // ---- 3 bringing, dropping, shares, waiting
@@ -427,7 +421,7 @@ public final class SealStrait {
         }
 
         boolean isThere(int herd) {
-            return within(herd, 0, HERDS - 1) && has(there, herd);
+            return herd >= 0 && herd < HERDS && (there >> herd & 1) == 1;
         }
 
         int traitOf(int herd, int what) {
@@ -917,6 +911,7 @@ public final class SealStrait {
     private static final class Trial {
         final Sea sea = new Sea();
         final Act act = new Act();
+        boolean isFaulty;
         int acts;
         int why;
         int readings;
@@ -924,13 +919,9 @@ public final class SealStrait {
 
         /** Stops at the first ACT that can not be: acts is its place then. */
         void run(Pad pad, Sea from, Treaty treaty) {
-            sea.copyFrom(from);
-            acts = 0;
-            why = Sea.CAN_BE;
-            readings = 0;
-            signedAll = from.there;
+            begin(pad, from);
             int place = 0;
-            for (int i = 0; i < Pad.MOST_SIGNS && place < pad.size; i++) {
+            for (int i = 0; i < Pad.MOST_SIGNS && place < pad.size && !isFaulty; i++) {
                 place += act.takeFrom(pad, place);
                 why = sea.whyNot(act, treaty);
                 if (why != Sea.CAN_BE) {
@@ -940,6 +931,19 @@ public final class SealStrait {
                 sea.perform(act, treaty);
                 acts++;
             }
+        }
+
+        private void begin(Pad pad, Sea from) {
+            sea.copyFrom(from);
+            isFaulty = pad.faultPlace() != NONE;
+            acts = 0;
+            why = Sea.CAN_BE;
+            readings = 0;
+            signedAll = from.there;
+        }
+
+        boolean allCanBe() {
+            return !isFaulty && why == Sea.CAN_BE;
         }
 
         private void noteReading(Treaty treaty) {

@@ -137,6 +137,12 @@ public final class BringingTest {
             due.is("share(3, " + r + ")", x.share(3, r), byRounds[r][1]);
             due.is("share(4, " + r + ")", x.share(4, r), byRounds[r][2]);
         }
+        SealStrait alone = new SealStrait();
+        alone.herd(0, 1, 0, 0, 0);
+        alone.herd(1, 0, 0, 0, 0);
+        due.is("share(0, 0) of one head in all", alone.share(0, 0), 0);
+        due.is("share(0, 99) of one head in all", alone.share(0, 99), 99);
+        due.is("share(1, 99) of one head in all", alone.share(1, 99), 0);
         SealStrait exact = new SealStrait();
         exact.herd(0, 5, 0, 0, 0);
         exact.herd(1, 8, 0, 0, 0);

@@ -220,13 +220,19 @@ public final class WentTest {
         x.clause(1, 1);
         yearIs(x, 77, 99, 12, 10, 6);
         yearIs(x, 5, 40, 28, 15, 18);
+        // x is 29092, which is 8 times 3636 and 4: a whistle for HERD 0.
+        yearIs(x, 9999, 1, 20, 0, 19);
         Due.write(x, "B!");
         x.done();
-        // x is 74, then 5624, then 28638, then 50640: CLAUSE 9, CLAUSE 3, (28638 is 8 times 3579 and 6:) HERD 596
-        // left over by 6 = 2 joins HERD 3579 left over by 6 = 3, which is not there, CLAUSE 6330 left over by 10 = 0.
+        // x is 74 (CLAUSE 9 is read), 5624 (CLAUSE 3), 28652 (a whistle for HERD 5, which is not there).
         yearIs(x, 0, 1, 32, 5, 11);
         yearIs(x, 0, 2, 25, 5, 10);
         yearIs(x, 0, 3, 25, 5, 10);
+        // x is 3374, which is 8 times 421 and 6: HERD 4 joins HERD 1, if both are on one SIDE.
+        x.herd(4, 30, 0, 7, 0);
+        yearIs(x, 44, 1, 15, 5, 23);
+        x.herd(4, 30, 1, 7, 0);
+        yearIs(x, 44, 1, 45, 5, 16);
         int[][] wrong = {{-1, 1, 0}, {10000, 1, 0}, {0, 0, 0}, {0, 100, 0}, {0, 1, -1}, {0, 1, 3}};
         for (int[] w : wrong) {
             due.is("year(" + w[0] + ", " + w[1] + ", " + w[2] + ")", x.year(w[0], w[1], w[2]), SealStrait.OUTSIDE);

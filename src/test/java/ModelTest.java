@@ -16,7 +16,7 @@ public final class ModelTest {
 
     private ModelTest(int seed) {
         draws = new Random(seed);
-        wrongs = seed % 3;
+        wrongs = seed % 10 == 0 ? 40 : seed % 3;
     }
 
     public static void main(String[] args) {

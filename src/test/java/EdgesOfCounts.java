@@ -235,6 +235,11 @@ final class EdgesOfCounts {
                 ask({0,1}) = 0 2
                 rock(5, 32) = 31
                 ask({0,1}) = 5 1
+                # All went under: one set fits, and the least ROCK is as good as any.
+                forget() = 8
+                rock({0..5}, 63)
+                counted(5, 594) = 1
+                ask({0,1}) = 0 1
                 """);
     }
 

@@ -5,8 +5,8 @@ final class EdgesOfImages {
             herd(5, 20, 0, 8, 11) = 2
             clause(3, 7) = 3
             clash(1, 2, true) = 1
-            rock(4, 33) = 63
-            counted(4, 5) = 1
+            rock(4, 32) = 63
+            counted(4, 21) = 1
             write A!.
             done() = 2
             """;
@@ -15,10 +15,10 @@ final class EdgesOfImages {
             told({1..4}) = 33 1 5 1
             told(1{0..9}) = 3 3 3 7 3 3 3 3 3 3
             told(2{0..9}) = 0 4 2 0 0 0 0 0 0 0
-            told(3{0..5}) = 63 63 63 63 33 63
+            told(3{0..5}) = 63 63 63 63 32 63
             told(10{0..3}) = 6 0 7 6
             told(15{0..3}) = 21 0 9 11
-            went(-1) = 0
+            went({-1..2}) = 2 32 33 NONE
             """;
     private static final String CHANGED = """
             herd(1, 1, 1, 1, 1) = 3
@@ -27,7 +27,7 @@ final class EdgesOfImages {
             clause(9, 9) = 3
             clash(1, 2, false) = 0
             clash(8, 9, true) = 1
-            rock(4, 1) = 33
+            rock(4, 1) = 32
             rock(0, 0) = 63
             forget() = 1
             counted(0, 0) = 1

@@ -9,6 +9,7 @@ import java.nio.file.Path;
 import java.util.IdentityHashMap;
 import java.util.Map;
 import java.util.Set;
+import java.util.TreeMap;
 import java.util.TreeSet;
 import java.util.regex.Matcher;
 import java.util.regex.Pattern;
@@ -26,12 +27,18 @@ public final class LanguageTest {
             "int restore(int)", "int told(int)");
     private static final Map<String, Long> CONSTANTS = Map.of("NONE", -6L, "UNKNOWN", -1L, "OUTSIDE", -2L,
             "STATE", -3L, "FULL", -4L, "NO", -5L, "LOST", -1000000000000000000L);
+    /** The head of a method that answers something or nothing (a constructor has no type ahead of its name). */
+    private static final Pattern METHOD = Pattern.compile(
+            "(?m)^ +(?:(?:public|private|static) )*(?:int|long|boolean|void) (\\w+)\\([^)]*\\) \\{$");
 
     public static void main(String[] args) throws IOException, ReflectiveOperationException {
         constants();
         methods();
         insideClasses();
-        text(Files.readString(Path.of("src/main/java/SealStrait.java")));
+        String whole = Files.readString(Path.of("src/main/java/SealStrait.java"));
+        text(whole);
+        methodsAreShort(whole);
+        callsAreNotDeep(bodies(whole));
         room();
         due.end();
     }
@@ -104,8 +111,65 @@ public final class LanguageTest {
         }
     }
 
+    private static String codeOf(String whole) {
+        return whole.replaceAll("(?s)/\\*.*?\\*/", "").replaceAll("//[^\n]*", "");
+    }
+
+    /** Rule 11, by how far a method's last brace stands from its first line. */
+    private static void methodsAreShort(String whole) {
+        Matcher head = METHOD.matcher(whole);
+        while (head.find()) {
+            int lines = (int) whole.substring(head.start(), endOfBody(whole, head.end())).lines().count();
+            due.isTrue(head.group(1) + " has " + lines + " lines", lines <= 60);
+        }
+    }
+
+    private static int endOfBody(String code, int begin) {
+        int open = 1;
+        int place = begin;
+        while (open > 0 && place < code.length()) {
+            open += code.charAt(place) == '{' ? 1 : code.charAt(place) == '}' ? -1 : 0;
+            place++;
+        }
+        return place;
+    }
+
+    /** By a method's name what stands in it; methods of one name are taken as one, so that no call is left out. */
+    private static Map<String, String> bodies(String whole) {
+        String code = codeOf(whole);
+        Map<String, String> all = new TreeMap<>();
+        Matcher head = METHOD.matcher(code);
+        while (head.find()) {
+            all.merge(head.group(1), code.substring(head.end(), endOfBody(code, head.end())), String::concat);
+        }
+        return all;
+    }
+
+    /** Rules 8 and 11: no method calls itself, over others either, and at most eight stand open at once. */
+    private static void callsAreNotDeep(Map<String, String> bodies) {
+        due.isTrue("methods are found in the text: " + bodies.size(), bodies.size() >= FACE.size() + 40);
+        for (String name : bodies.keySet()) {
+            int depth = depthOf(name, bodies, 1);
+            due.isTrue(name + " goes " + depth + " calls deep", depth <= 8);
+        }
+    }
+
+    private static int depthOf(String name, Map<String, String> bodies, int above) {
+        if (above > 20) {
+            return above;
+        }
+        int deepest = 0;
+        Matcher call = Pattern.compile("\\b(\\w+)\\(").matcher(bodies.get(name));
+        while (call.find()) {
+            if (bodies.containsKey(call.group(1))) {
+                deepest = Math.max(deepest, depthOf(call.group(1), bodies, above + 1));
+            }
+        }
+        return 1 + deepest;
+    }
+
     private static void text(String whole) {
-        String code = whole.replaceAll("(?s)/\\*.*?\\*/", "").replaceAll("//[^\n]*", "");
+        String code = codeOf(whole);
         String[] ruledOut = {"throw", "try", "catch", "finally", "throws", "synchronized", "assert", "package", "static \\{",
             "->", "::", "instanceof", "System", "Random", "Thread", "Exact", "\\bObject\\b", "\\bHash", "goto",
             "\\bwhile\\b", "\\bString\\b", "\\bdouble\\b", "\\bfloat\\b"};

@@ -177,6 +177,20 @@ final class EdgesOfCounts {
                 counted(0, 7) = 1
                 went({-1..0}) = 1 1
                 """);
+        edges.run(21, "HERDS that are seen off it", ODD_HERDS + """
+                # Which HERDS are seen is told of the ROCK, so a COUNT that stands goes by what is seen off it now.
+                counted(2, 10) = 1
+                went({-1..2}) = 2 10 32 NONE
+                rock(2, 10) = 63
+                went({-1..2}) = 2 10 42 NONE
+                rock(2, 2) = 10
+                went({-1..0}) = 0 NONE
+                # Another ROCK's HERDS do not matter to it.
+                rock(3, 32) = 63
+                went(-1) = 0
+                rock(2, 32) = 2
+                went({-1..4}) = 4 32 34 40 42 NONE
+                """);
     }
 
     private void ask() {
